@@ -30,6 +30,7 @@ public final class PromisesTest {
         leastLeftOut();
         leastTakesActsThatCount();
         leastLimits();
+        askingLeavesNothingBehind();
         objectsAreApart();
         CHECK.end();
     }
@@ -136,6 +137,9 @@ public final class PromisesTest {
         due("200: the second by days", x.state(2, 1, 801), 9);
         due("200: counts(199)", x.counts(199), 1);
         due("200: counts(200)", x.counts(200), -1);
+        due("200: kept", x.kept(1, 0, 0, 0), -1);
+        due("200: most", x.most(1), -9);
+        due("200: least", x.least(), -9);
     }
 
     // Promise 3, and what is VOID
@@ -268,6 +272,10 @@ public final class PromisesTest {
             due("all headings: heading(1, " + i + ")", x.heading(1, i), i + 1);
         }
         due("all headings: heading(1, 99)", x.heading(1, 99), -1);
+        for (int heading = 1; heading <= 99; heading++) {
+            int others = heading == 1 || heading == 63 || heading == 64 || heading == 99 || heading == 35 ? 1 : 0;
+            due("all headings: question(" + heading + ", 0)", x.question(heading, 0), 1 + others);
+        }
     }
 
     // Promises 8 and 9
@@ -505,6 +513,32 @@ public final class PromisesTest {
         due("least leaves the verdicts", x.refused(), 2);
         x.event(9, 1, 1, 5);
         due("least with 31 acts", x.least(), -9);
+    }
+
+    /** Each call goes through the acts from their beginning, whatever the call ahead of it went through. */
+    private static void askingLeavesNothingBehind() {
+        PlainLibrary x = with(act(4, 1, 0, 0), act(2, 1, 1, 1), act(2, 2, 1, 1), act(3, 1, 5, 2), act(4, 1, 0, 3),
+                act(3, 2, 5, 4), act(4, 2, 0, 5), act(3, 1, 5, 6), act(9, 1, 3, 6), act(5, 1, 8, 7));
+        for (int time = 0; time < 2; time++) {
+            due("later record", x.state(0, 1, 9), 1);
+            due("earlier record", x.state(0, 1, 0), 0);
+            due("later class", x.state(2, 1, 9), 3);
+            due("earlier class", x.state(2, 1, 5), 0);
+            due("later person", x.state(1, 1, 9), 5);
+            due("earlier person", x.state(1, 1, 1), 0);
+            due("most", x.most(5), 1);
+            due("due", x.due(1), 34);
+            due("the first given back", x.kept(5, 0, 0, 0), 1);
+            due("the second given back", x.kept(5, 1, 0, 0), 2);
+            due("no third given back", x.kept(5, 2, 0, 0), -1);
+            due("refused", x.refused(), 1);
+            due("least", x.least(), 1);
+            due("counts(0)", x.counts(0), 0);
+            due("queue", x.queue(1, 0), 8);
+        }
+        PlainLibrary y = with(act(2, 1, 1, 1), act(2, 2, 1, 1), act(3, 1, 5, 2), act(4, 1, 0, 3), act(3, 2, 5, 4));
+        due("most", y.most(5), 1);
+        due("most behind most", y.most(5), 1);
     }
 
     private static void objectsAreApart() {
