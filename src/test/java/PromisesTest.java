@@ -39,24 +39,16 @@ public final class PromisesTest {
         CHECK.due(call, got, want);
     }
 
-    /** Rows of sort, a, b, day, all of which are taken. */
     private static PlainLibrary with(long[]... acts) {
-        PlainLibrary x = new PlainLibrary();
-        for (int i = 0; i < acts.length; i++) {
-            due("with: event", x.event((int) acts[i][0], acts[i][1], acts[i][2], acts[i][3]), i + 1);
-        }
-        return x;
+        return CHECK.with(acts);
     }
 
     private static long[] act(long sort, long a, long b, long day) {
-        return new long[] {sort, a, b, day};
+        return Check.act(sort, a, b, day);
     }
 
     private static void verdicts(String name, PlainLibrary x, int... wants) {
-        for (int i = 0; i < wants.length; i++) {
-            due(name + ": counts(" + i + ")", x.counts(i), wants[i]);
-        }
-        due(name + ": counts behind the last", x.counts(wants.length), -1);
+        CHECK.verdicts(name, x, wants);
     }
 
     // Promise 1
