@@ -37,6 +37,7 @@ public final class EdgesTest {
         dueBounds();
         queuePlaces();
         queueRecords();
+        fullQueuesSideBySide();
         pollMoreThanHalf();
         pollSums();
         pollFiles();
@@ -530,6 +531,35 @@ public final class EdgesTest {
         all("queue", NO_NUMBERS, -1, n -> x.queue(n, 0));
     }
 
+    /** The last place of one queue is next to the first of another: neither answers for the other. */
+    private static void fullQueuesSideBySide() {
+        CHECK.says("The i-th person, from 0 on, in a record's QUEUE");
+        int[] outs = {1, 10, 19, 20};
+        for (int out : outs) {
+            PlainLibrary x = new PlainLibrary();
+            for (int person = 1; person <= 20; person++) {
+                x.event(5, 18, person, 1);
+                x.event(5, 19, person, 1);
+                x.event(5, 20, person, 1);
+            }
+            due("all stand in all three", x.refused(), 0);
+            for (int record = 18; record <= 20; record++) {
+                x.event(5, record, 20, 2);
+                x.event(5, record, 1, 2);
+            }
+            due("nobody stands in one twice", x.refused(), 6);
+            x.event(6, 19, out, 3);
+            x.event(6, 20, out, 3);
+            due("who stands in it can leave", x.refused(), 6);
+            for (int i = 0; i < 20; i++) {
+                int behind = i == 19 ? -1 : i + 1 < out ? i + 1 : i + 2;
+                due(out + " left: queue(18, " + i + ")", x.queue(18, i), i + 1);
+                due(out + " left: queue(19, " + i + ")", x.queue(19, i), behind);
+                due(out + " left: queue(20, " + i + ")", x.queue(20, i), behind);
+            }
+        }
+    }
+
     // ---- Promise 12
 
     /** A store for each sum; days tell the sums, so store k gets its own on a day of its own. */
@@ -711,6 +741,7 @@ public final class EdgesTest {
         due("at the end it has none", x.state(1, 20, 5), 0);
         PlainLibrary y = with(act(2, 1, 1, 0), act(2, 2, 1, 0), act(3, 1, 7, 1), act(4, 1, 0, 2), act(3, 2, 7, 2));
         due("one, and another", y.most(7), 1);
+        due("asked again", y.most(7), 1);
         PlainLibrary z = with(act(2, 1, 1, 0), act(2, 2, 1, 0), act(3, 1, 7, 1), act(3, 2, 7, 2), act(4, 1, 0, 2));
         due("one behind the other", z.most(7), 2);
         PlainLibrary last = with(act(2, 1, 1, 0), act(3, 1, 7, 1000000));
@@ -787,6 +818,8 @@ public final class EdgesTest {
                 act(3, 1, 7, 1), act(4, 1, 0, 2)).least(), 2);
         due("three that count are too many", with(act(2, 1, 1, 0), act(5, 1, 8, 0), act(5, 1, 9, 0), act(5, 1, 10, 0),
                 act(3, 1, 7, 1), act(4, 1, 0, 2), act(3, 1, 7, 3)).least(), 3);
+        due("two at the end, where each ahead is needed", with(act(2, 1, 1, 0), act(3, 1, 7, 1), act(4, 1, 0, 2),
+                act(4, 1, 0, 3), act(4, 1, 0, 4)).least(), 2);
         due("lost twice, had once", with(act(7, 1, 1, 0), act(8, 1, 1, 1), act(8, 1, 1, 2)).least(), 1);
         due("by days, not as entered", with(act(3, 1, 7, 5), act(2, 1, 1, 4)).least(), 0);
     }

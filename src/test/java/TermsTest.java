@@ -15,6 +15,7 @@ public final class TermsTest {
         loanDays();
         anyNumberForGivingBack();
         cornersAreHeldApart();
+        neighboursAreHeldApart();
         needNotBeToldBefore();
         anyOrderOfDays();
         oneDayAsEntered();
@@ -210,6 +211,39 @@ public final class TermsTest {
             due("class of " + n, x.state(2, n, 9), 0);
             due("queue(" + n + ", 0)", x.queue(n, 0), -1);
             due("poll(" + n + ")", x.poll(n), -1);
+        }
+    }
+
+    /** Every second record has headings at the edges, every second file is in all stores, and those between are not. */
+    private static void neighboursAreHeldApart() {
+        CHECK.says("RECORDS, COPIES, PERSONS, FILES are told by numbers 1 .. 20 each");
+        int[] headings = {1, 2, 62, 63, 64, 65, 98, 99};
+        for (int first = 1; first <= 2; first++) {
+            PlainLibrary x = new PlainLibrary();
+            for (int n = first; n <= 20; n += 2) {
+                for (int heading : headings) {
+                    x.event(0, n, heading, 0);
+                }
+                for (int store = 1; store <= 5; store++) {
+                    x.event(7, n, store, 700 + n % 7);
+                }
+            }
+            due("all count", x.refused(), 0);
+            for (int n = 1; n <= 20; n++) {
+                boolean has = n % 2 == first % 2;
+                for (int i = 0; i < headings.length; i++) {
+                    due("heading(" + n + ", " + i + ")", x.heading(n, i), has ? headings[i] : -1);
+                }
+                due("heading(" + n + ", 8)", x.heading(n, 8), -1);
+                due("poll(" + n + ")", x.poll(n), has ? n % 7 : -1);
+            }
+            for (int n = 3 - first; n <= 20; n += 2) {
+                x.event(8, n, 1, 800);
+                x.event(8, n, 5, 800);
+                x.event(1, n, 1, 800);
+                x.event(1, n, 99, 800);
+            }
+            due("those between have nothing to lose", x.refused(), 40);
         }
     }
 
