@@ -25,18 +25,31 @@ public final class FaceTest {
         Constructor<?>[] constructors = PlainLibrary.class.getDeclaredConstructors();
         check.holds("one public constructor without arguments", constructors.length == 1
                 && Modifier.isPublic(constructors[0].getModifiers()) && constructors[0].getParameterCount() == 0);
+        check.holds("the classes inside are static and not public", classesInsideAreHidden());
         check.end();
+    }
+
+    private static boolean classesInsideAreHidden() {
+        for (Class<?> inner : PlainLibrary.class.getDeclaredClasses()) {
+            int modifiers = inner.getModifiers();
+            if (!Modifier.isStatic(modifiers) || Modifier.isPublic(modifiers) || Modifier.isProtected(modifiers)) {
+                return false;
+            }
+        }
+        return true;
     }
 
     private static Set<String> methods() {
         Set<String> found = new TreeSet<>();
         for (Method m : PlainLibrary.class.getDeclaredMethods()) {
+            // This test shares the class's package, so a method that lost its 'public' would be called all the same.
             if (!Modifier.isPrivate(m.getModifiers())) {
                 StringBuilder text = new StringBuilder();
                 for (Class<?> type : m.getParameterTypes()) {
                     text.append(text.length() == 0 ? "" : ",").append(type.getName());
                 }
-                found.add(m.getReturnType().getName() + " " + m.getName() + "(" + text + ")");
+                String before = m.getModifiers() == Modifier.PUBLIC ? "" : "not public alone: ";
+                found.add(before + m.getReturnType().getName() + " " + m.getName() + "(" + text + ")");
             }
         }
         return found;

@@ -12,6 +12,7 @@ import java.util.TreeSet;
 public final class ModelTest {
     private static final Check CHECK = new Check();
     private static final Map<String, TreeSet<Long>> SEEN = new TreeMap<>();
+    private static final int LAST_CALL = 512;
     private static final long[] ODD = {Long.MIN_VALUE, Integer.MIN_VALUE, -100, -2, -1, 0, 1, 5, 6, 9, 10, 19, 20, 21,
         99, 100, 365, 366, 999999, 1000000, 1000001, Integer.MAX_VALUE, 1L << 32, (1L << 32) + 1, Long.MAX_VALUE};
 
@@ -303,7 +304,7 @@ public final class ModelTest {
         long day = draw.day();
         World world = m.all();
         boolean known = Model.in(n, 1, 20);
-        switch (draw.random.nextInt(12)) {
+        switch (draw.random.nextInt(14)) {
             case 0:
                 int place = (int) draw.stray(draw.random.nextInt(m.entered.size() + 2) - 1);
                 List<Boolean> verdicts = m.verdicts();
@@ -312,7 +313,6 @@ public final class ModelTest {
                 break;
             case 1:
                 due("refused", x.refused(), m.verdicts().stream().filter(v -> !v).count());
-                due("events", x.events(), m.entered.size());
                 break;
             case 2:
             case 3:
@@ -344,8 +344,36 @@ public final class ModelTest {
                 int days = (int) draw.stray(draw.random.nextInt(60) - 20);
                 due("kept", x.kept(n, i, day, days), m.kept(n, i, day, days), n, i, day, days);
                 break;
+            case 11:
+                due("events", x.events(), m.entered.size());
+                break;
+            case 12:
+                due("least", x.least(), m.least());
+                break;
             default:
                 due("most", x.most(n), m.most(n), n);
+        }
+    }
+
+    private static void enter(PlainLibrary x, Model m, Draw draw) {
+        int sort = draw.sort();
+        long a = draw.first(sort);
+        long b = draw.second(sort);
+        long day = draw.day();
+        due("event", x.event(sort, a, b, day), m.event(sort, a, b, day), sort, a, b, day);
+    }
+
+    /** An object is used for 512 calls, and each of them may be of any kind. */
+    private static void wholeLife(long seed) {
+        Draw draw = new Draw(seed);
+        PlainLibrary x = new PlainLibrary();
+        Model m = new Model();
+        for (int call = 1; call <= LAST_CALL; call++) {
+            if (draw.random.nextInt(LAST_CALL) < draw.acts) {
+                enter(x, m, draw);
+            } else {
+                ask(x, m, draw);
+            }
         }
     }
 
@@ -354,11 +382,7 @@ public final class ModelTest {
         PlainLibrary x = new PlainLibrary();
         Model m = new Model();
         for (int call = 0; call < draw.acts; call++) {
-            int sort = draw.sort();
-            long a = draw.first(sort);
-            long b = draw.second(sort);
-            long day = draw.day();
-            due("event", x.event(sort, a, b, day), m.event(sort, a, b, day), sort, a, b, day);
+            enter(x, m, draw);
             if (draw.random.nextInt(4) == 0) {
                 ask(x, m, draw);
             }
@@ -373,6 +397,9 @@ public final class ModelTest {
     public static void main(String[] args) {
         for (long seed = 1; seed <= 6000 && CHECK.isClean(); seed++) {
             run(seed);
+            if (seed % 10 == 0) {
+                wholeLife(seed);
+            }
             if (!CHECK.isClean()) {
                 System.out.println("in the run of seed " + seed);
             }
